@@ -497,7 +497,7 @@ public final class HeavierServes {
     /** A WEEK goes by: how many LAWS fell, if another one serves then, else NONE. */
     private int passWeek(int sure, int asked) {
         int before = now.server;
-        int held = now.lawsHolding();
+        int held = now.holding;
         office.pass(now, sure, asked);
         return now.server == before ? NONE : held;
     }
@@ -677,24 +677,21 @@ public final class HeavierServes {
             return index < 0 || index >= habits.length ? 0 : habits[index];
         }
 
-        /** The CHANGE that comes to one in a WEEK. */
-        int changeIn(int person, int week) {
-            int length = habitLength[person];
-            return length < 1 ? 0 : changeAt(person, Math.floorMod(week, length));
-        }
-
         void changeWeights(State s) {
             for (int person = 0; person < people; person++) {
-                if (habitLength[person] > 0 && s.lives(person)) {
-                    s.putWeight(person, s.weight[person] + changeIn(person, s.week));
+                int length = habitLength[person];
+                if (length > 0 && s.lives(person)) {
+                    int change = habits[person * CHANGES_MOST + Math.floorMod(s.week, length)];
+                    s.weight[person] = inBounds(s.weight[person] + change);
                 }
             }
         }
 
         int weightLater(State s, int person, int weeks) {
             int weight = s.weight[person];
-            for (int k = 0; k < weeks; k++) {
-                weight = inBounds(weight + changeIn(person, s.week + k));
+            int length = habitLength[person];
+            for (int k = 0; k < weeks && length > 0; k++) {
+                weight = inBounds(weight + changeAt(person, Math.floorMod(s.week + k, length)));
             }
             return weight;
         }
@@ -805,7 +802,10 @@ public final class HeavierServes {
     }
 
     private static int inBounds(int weight) {
-        return Math.max(1, Math.min(WEIGHT_MOST, weight));
+        if (weight < 1) {
+            return 1;
+        }
+        return weight > WEIGHT_MOST ? WEIGHT_MOST : weight;
     }
 
     /** THE WILL, kept with each sign behind what it works on. */
@@ -813,6 +813,10 @@ public final class HeavierServes {
         private static final int WILL_SIGNS = 40;
         private static final int DIGITS_MOST = 3;
         private static final int DEPTH_MOST = 4;
+        private static final int COMPARISONS = 0;
+        private static final int SUMS = 1;
+        private static final int PRODUCTS = 2;
+        private static final int THINGS = 3;
         private static final int FACT = 1000;
         private static final int OPERATOR = 2000;
         private static final int NEGATION = 3000;
@@ -832,7 +836,7 @@ public final class HeavierServes {
             text.open(WILL_SIGNS);
             place = 0;
             drafted = 0;
-            if (text.length > 0 && (!readComparison(text, 0) || place < text.length)) {
+            if (text.length > 0 && (!readLevel(text, COMPARISONS, 0) || place < text.length)) {
                 return place;
             }
             System.arraycopy(draft, 0, codes, 0, WILL_SIGNS);
@@ -840,83 +844,61 @@ public final class HeavierServes {
             return NONE;
         }
 
-        private boolean readComparison(Text text, int depth) {
-            if (!readSum(text, depth)) {
-                return false;
+        /** What binds as a level does: comparisons least, then sums, products, things. */
+        private boolean readLevel(Text text, int level, int depth) {
+            if (level >= THINGS) {
+                return readThing(text, depth);
             }
-            int sign = text.signAt(place);
-            if (sign != '<' && sign != '>' && sign != '=') {
-                return true;
-            }
-            place++;
-            if (!readSum(text, depth)) {
-                return false;
-            }
-            emit(OPERATOR + sign);
-            return true;
-        }
-
-        private boolean readSum(Text text, int depth) {
-            boolean good = readProduct(text, depth);
-            for (int k = 0; k < WILL_SIGNS && good; k++) {
+            boolean good = readLevel(text, level + 1, depth);
+            int signsMost = level == COMPARISONS ? 1 : WILL_SIGNS;
+            for (int k = 0; k < signsMost && good; k++) {
                 int sign = text.signAt(place);
-                if (sign != '+' && sign != '-') {
+                if (levelOf(sign) != level) {
                     break;
                 }
                 place++;
-                good = readProduct(text, depth);
+                good = readLevel(text, level + 1, depth);
                 emit(OPERATOR + sign);
             }
             return good;
         }
 
-        private boolean readProduct(Text text, int depth) {
-            boolean good = readFactor(text, depth);
-            for (int k = 0; k < WILL_SIGNS && good; k++) {
-                int sign = text.signAt(place);
-                if (sign != '*' && sign != '/') {
-                    break;
-                }
-                place++;
-                good = readFactor(text, depth);
-                emit(OPERATOR + sign);
+        private static int levelOf(int sign) {
+            switch (sign) {
+                case '<': case '>': case '=': return COMPARISONS;
+                case '+': case '-': return SUMS;
+                case '*': case '/': return PRODUCTS;
+                default: return NONE;
             }
-            return good;
         }
 
-        private boolean readFactor(Text text, int depth) {
+        private boolean readThing(Text text, int depth) {
             boolean negative = false;
             for (int k = 0; k < WILL_SIGNS && text.signAt(place) == '-'; k++) {
                 negative = !negative;
                 place++;
             }
-            boolean good = readThing(text, depth);
+            int sign = text.signAt(place);
+            boolean good = true;
+            if (sign == '(') {
+                good = depth < DEPTH_MOST && readBracket(text, depth);
+            } else if (sign >= '0' && sign <= '9') {
+                readNumber(text);
+            } else if (isFact(sign)) {
+                emit(FACT + sign);
+                place++;
+            } else {
+                good = false;
+            }
             if (negative) {
                 emit(NEGATION);
             }
             return good;
         }
 
-        private boolean readThing(Text text, int depth) {
-            int sign = text.signAt(place);
-            if (sign == '(') {
-                return depth < DEPTH_MOST && readBracket(text, depth);
-            }
-            if (text.digitAt(place) != NONE) {
-                readNumber(text);
-                return true;
-            }
-            if (!isFact(sign)) {
-                return false;
-            }
-            emit(FACT + sign);
-            place++;
-            return true;
-        }
-
         private boolean readBracket(Text text, int depth) {
             place++;
-            if (!readComparison(text, depth + 1) || text.signAt(place) != ')') {
+            if (!readLevel(text, COMPARISONS, depth + 1) || text.signAt(place) != ')') {
                 return false;
             }
             place++;
@@ -995,7 +977,7 @@ public final class HeavierServes {
                 case 'v': return server < 0 ? 0 : s.weight[server];
                 case 'q': return server < 0 ? NONE : town.party[server];
                 case 's': return s.since;
-                case 't': return s.lawsHolding();
+                case 't': return s.holding;
                 case 'n': return s.week;
                 default: return s.weeksServed[person];
             }
@@ -1013,11 +995,10 @@ public final class HeavierServes {
         }
 
         int shows(int weight) {
-            return showsWith(weight, off);
-        }
-
-        private int showsWith(int weight, int otherOff) {
-            int drawn = Math.max(0, weight + otherOff);
+            int drawn = weight + off;
+            if (drawn < 0) {
+                return 0;
+            }
             return grain < 1 ? drawn : drawn - drawn % grain;
         }
 
@@ -1026,7 +1007,11 @@ public final class HeavierServes {
             int those = 0;
             for (int k = 0; k < weighings.size; k++) {
                 int person = weighings.person(k);
-                if (person >= 0 && person < weights.length && showsWith(weights[person], otherOff) != weighings.value(k)) {
+                if (person < 0 || person >= weights.length) {
+                    continue;
+                }
+                // Another OFF is as if the WEIGHT were other by that much.
+                if (shows(weights[person] + otherOff - off) != weighings.value(k)) {
                     those |= 1 << person;
                 }
             }
@@ -1082,6 +1067,7 @@ public final class HeavierServes {
         int since;
         int alive;
         int holds;
+        int holding;
         int lawsMade;
         final int[] weight = new int[PEOPLE_MOST];
         final int[] weeksServed = new int[PEOPLE_MOST];
@@ -1100,6 +1086,7 @@ public final class HeavierServes {
             since = from.since;
             alive = from.alive;
             holds = from.holds;
+            holding = from.holding;
             System.arraycopy(from.weight, 0, weight, 0, PEOPLE_MOST);
             System.arraycopy(from.weeksServed, 0, weeksServed, 0, PEOPLE_MOST);
         }
@@ -1131,10 +1118,6 @@ public final class HeavierServes {
             }
         }
 
-        int lawsHolding() {
-            return Integer.bitCount(holds);
-        }
-
         int makeLaw() {
             int law = lawsMade;
             if (law < 0 || law >= LAWS_MOST) {
@@ -1144,19 +1127,21 @@ public final class HeavierServes {
             madeIn[law] = week;
             fellIn[law] = NONE;
             holds |= 1 << law;
+            holding++;
             lawsMade++;
             return law;
         }
 
         /** LAWS that hold are all made by who serves: they fall together. */
         private int dropLaws() {
-            int fell = lawsHolding();
+            int fell = holding;
             for (int law = 0; law < LAWS_MOST && fell > 0; law++) {
                 if ((holds >> law & 1) != 0) {
                     fellIn[law] = week;
                 }
             }
             holds = 0;
+            holding = 0;
             return fell;
         }
 
@@ -1315,7 +1300,11 @@ public final class HeavierServes {
                     continue;
                 }
                 int shown = scale.shows(s.weight[person]);
-                if (shown > heaviest && stands(s, person, sure, asked)) {
+                if (shown <= heaviest) {
+                    continue;
+                }
+                if ((sure >> person & 1) != 0
+                    || (asked >> person & 1) != 0 && will.value(s, town, person) != 0) {
                     best = person;
                     heaviest = shown;
                 }
@@ -1323,13 +1312,8 @@ public final class HeavierServes {
             return best;
         }
 
-        private boolean stands(State s, int person, int sure, int asked) {
-            return (sure >> person & 1) != 0
-                || (asked >> person & 1) != 0 && will.value(s, town, person) != 0;
-        }
-
         /** What one has to outweigh: less than any WEIGHT shown, if nobody serves. */
-        int shownOfServer(State s) {
+        private int shownOfServer(State s) {
             return s.server < 0 ? -1 : scale.shows(s.weight[s.server]);
         }
 
@@ -1583,7 +1567,7 @@ public final class HeavierServes {
                 for (int other = 0; other < town.people; other++) {
                     those |= (plans[other] >> k & 1) << other;
                 }
-                office.pass(course, those, 0);
+                office.finish(course, office.winner(course, those, 0));
             }
             return gain(person);
         }
