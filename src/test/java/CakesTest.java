@@ -51,7 +51,7 @@ public final class CakesTest {
         Check.due("it never wills", x.bribe(2, 5), -2);
         Check.row("the row stays", x, 5);
         x.stand(4);
-        // 57, 54, 51, 48: 50 comes in the fourth week, and 40 in the ninth would be too light then.
+        // 2 has 57, 54, 51, 48: 50 comes in the fourth week, and stays.
         Check.due("later", x.bribe(1, 4), 0);
         Check.row("later", x, 1);
         Check.due("sooner", x.bribe(1, 3), 2);
@@ -124,7 +124,7 @@ public final class CakesTest {
     }
 
     private static void cheapestBehindTheCakes() {
-        // 2 outweighs who serves by 5; 0 needs 16 more than 2's will lets it be, who serves 5 or, with 3 cakes, 2 wills no more.
+        // By will 2 comes; the others would have to eat: 0 as many as outweigh 2, 1 as many as change 2's will.
         HeavierServes x = Check.with("40;50;55", "v<53");
         x.stand(2);
         Check.due("2 needs none", x.cheapest(), 2);
@@ -132,22 +132,19 @@ public final class CakesTest {
         x = Check.with("40;50;55*1;55*1", "(v<53)*p");
         x.stand(2);
         Check.due("2 is the first of equal ones", x.cheapest(), 2);
-        // 3 is never the first of equal ones, nor are all heavier than 999.
         x = Check.with("999;999");
         x.stand(1);
         Check.due("who serves", x.cheapest(), 0);
         Check.row("who serves", x, 0);
-        // All are kept from serving by one that wills when none is as heavy: nobody but it.
         x = Check.with("900*1;30;20");
         x.scale(0, 5);
         x.dies(0);
-        Check.due("1", x.cheapest(), 1);
+        Check.due("the heavier one of two", x.cheapest(), 1);
         x.stand(4);
-        // 30 shows 30 and 20 shows 20: 1 comes without cakes.
-        Check.due("1", x.cheapest(), 1);
-        Check.row("1", x, 0);
+        Check.due("it outweighs who serves", x.cheapest(), 1);
+        Check.row("it outweighs who serves", x, 0);
+        // 18 shows 15, less than 20.
         x.fast(1, 12);
-        // 18 shows 15: 2 stays without cakes.
-        Check.due("2", x.cheapest(), 2);
+        Check.due("who serves stays", x.cheapest(), 2);
     }
 }

@@ -164,29 +164,23 @@ public final class FutureTest {
     }
 
     private static void restsOfManyRounds() {
-        HeavierServes x = Check.with("45;50-9+0+0+0+0;48-9+9");
-        Model m = new Model();
-        typeTo(m, "45;50-9+0+0+0+0;48-9+9");
-        for (int n = 1; n <= 4; n++) {
-            for (int rounds = 0; rounds <= 20; rounds++) {
-                Check.due("rests(" + n + ", " + rounds + ")", x.rests(n, rounds), m.rests(n, rounds));
-                for (int k = 0; k < 4; k++) {
-                    Check.due("row", x.row(k), m.row(k));
-                }
-            }
-        }
-    }
-
-    private static void typeTo(Model m, String text) {
-        for (int k = 0; k < text.length(); k += 4) {
-            int v = 0;
-            for (int j = 0; j < 4; j++) {
-                v = v << 8 | (k + j < text.length() ? text.charAt(k + j) : 0);
-            }
-            m.sign(v);
-        }
-        m.end(text.length());
-        m.town();
+        // Shown in nines: 0 has 54 45 54 54, 1 has 45 54 54 54, 2 has 54 54 45 45, 3 has 45 54 54 54.
+        HeavierServes x = Check.with("54-9+9+0+9;45+9+0+0-9;54+0-9+0+9;45+9+0+0+0");
+        x.scale(0, 9);
+        // All standing, 0 serves in the first week alone; leaving that one to 2, it serves in the last two.
+        Check.due("a better plan", x.rests(4, 20), 2);
+        Check.row("a better plan", x, 1, 4, 15, 15, 15);
+        Check.due("no time to rest", x.rests(4, 1), 1);
+        Check.row("no time to rest", x, 0, 4, 15, 15, 15);
+        Check.due("two weeks", x.rests(2, 20), 1);
+        Check.row("two weeks", x, 1, 3, 3, 3, 3);
+        x = Check.with("54-9+9+9+0;45+9+0+9+0;45+0+0+9-9;54+0-9-9+0;45+9-9+0-9");
+        x.scale(0, 9);
+        Check.due("another one", x.rests(4, 3), 2);
+        Check.row("another one", x, 1, 4, 15, 15, 15, 15);
+        x.dies(0);
+        Check.due("not alive", x.rests(4, 3), 1);
+        Check.row("not alive", x, 1, 15, 15, 15, 15, 15);
     }
 
     private static void party() {

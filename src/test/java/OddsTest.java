@@ -91,6 +91,25 @@ public final class OddsTest {
         x.stand(2);
         x.odds(1, 2);
         Check.row("it stays", x, 1, 1);
+        x = Check.with("50;60", "t=1");
+        x.set(2, 1, 5);
+        x.stand(1);
+        x.law();
+        x.odds(1, 2);
+        Check.row("who stays keeps the laws", x, 3, 4);
+        Check.will(x, "s=2");
+        x.odds(1, 1);
+        Check.row("not yet", x, 0, 1);
+        x.odds(1, 2);
+        Check.row("for two weeks then", x, 1, 2);
+        x = Check.with("50;60;70", "(i=1)+(o>0)*(s=1)*(t=0)");
+        x.set(2, 1, 5);
+        x.stand(1);
+        x.law();
+        x.odds(0, 2);
+        Check.row("0 is too light", x, 1, 4);
+        x.odds(2, 2);
+        Check.row("2 never served", x, 0, 1);
     }
 
     private static void oddsOfAll() {
