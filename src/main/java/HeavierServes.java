@@ -478,6 +478,13 @@ public final class HeavierServes {
         return was;
     }
 
+    private static int inBounds(int weight) {
+        if (weight < 1) {
+            return 1;
+        }
+        return weight > WEIGHT_MOST ? WEIGHT_MOST : weight;
+    }
+
     private static int asKind(int kind, int v) {
         if (kind == 0) {
             return (byte) v;
@@ -801,13 +808,6 @@ public final class HeavierServes {
         }
     }
 
-    private static int inBounds(int weight) {
-        if (weight < 1) {
-            return 1;
-        }
-        return weight > WEIGHT_MOST ? WEIGHT_MOST : weight;
-    }
-
     /** THE WILL, kept with each sign behind what it works on. */
     private static final class Will {
         private static final int WILL_SIGNS = 40;
@@ -944,7 +944,8 @@ public final class HeavierServes {
                     if (top < 1) {
                         return 0;
                     }
-                    stack[top - 1] = taken == 0 ? -stack[top - 1] : combine(code - OPERATOR, stack[top - 1], stack[top]);
+                    int left = stack[top - 1];
+                    stack[top - 1] = taken == 0 ? -left : combine(code - OPERATOR, left, stack[top]);
                 } else {
                     if (top >= WILL_SIGNS) {
                         return 0;
