@@ -195,9 +195,11 @@ public final class FutureTest {
         Check.row("of equal ones the first", x, 0, 1, 1, 0, 6);
         Check.due("2", x.party(5), 2);
         Check.row("2", x, 0, 1, 2, 0, 6);
+        Check.due("99 weeks", x.party(99), 2);
+        Check.row("99 weeks", x, 0, 1, 96, 0, 6);
         Check.due("n 100", x.party(100), -2);
         Check.due("n -1", x.party(-1), -2);
-        Check.row("the row stays", x, 0, 1, 2, 0, 6);
+        Check.row("the row stays", x, 0, 1, 96, 0, 6);
     }
 
     private static void byTurns() {
@@ -209,6 +211,8 @@ public final class FutureTest {
         Check.row("four weeks", x, 2);
         Check.due("the other party", x.byTurns(2, 4), 4);
         Check.row("the other party", x, 0);
+        Check.due("99 weeks", x.byTurns(1, 99), 97);
+        Check.row("99 weeks", x, 97);
         Check.due("a party of none", x.byTurns(3, 4), 0);
         Check.row("a party of none", x, 0);
         Check.due("no week", x.byTurns(1, 0), 0);
@@ -232,6 +236,7 @@ public final class FutureTest {
         HeavierServes x = Check.with("90*1;60*1;70*2");
         Check.due("worth", x.fool(0, 5), 5);
         Check.row("worth", x, 5, 0);
+        Check.due("99 weeks", x.fool(0, 99), 99);
         Check.due("worth nothing", x.fool(1, 5), 0);
         Check.row("worth nothing", x, 5, 5);
         Check.due("the other's", x.fool(2, 5), 0);

@@ -9,6 +9,8 @@ import java.util.Random;
 /** Runs of random calls on the class and on the model, which have to answer the same. */
 public final class ModelTest {
     private static final String[] DEAR = {"ever", "soonest", "hold", "bribe", "starve", "cheapest", "explains", "absent", "rests", "most", "odds", "likely"};
+    private static final String[] WILLS = {"", "s>1", "w>v", "s-o", "t=0", "n/2*2=n", "v<w+5", "(i=1)*(s>0)+(i=0)", "o<3", "(n>3)*(q-p)", "s>0",
+        "(w-v)*(w-v)<30", "s=2+t", "n-n/3*3-i", "(v=0)+(s>i)"};
     private static final int[] EDGES = {Integer.MIN_VALUE, Integer.MAX_VALUE, -101, -100, -10, -9, -2, -1, 0, 1, 2, 3, 4, 8, 9, 10, 12, 13,
         20, 21, 60, 61, 76, 80, 99, 100, 255, 256, 999, 1000, 1010, 1011};
 
@@ -22,7 +24,7 @@ public final class ModelTest {
     }
 
     public static void main(String[] args) throws Exception {
-        int runs = args.length > 0 ? Integer.parseInt(args[0]) : 400;
+        int runs = args.length > 0 ? Integer.parseInt(args[0]) : 600;
         long first = args.length > 1 ? Long.parseLong(args[1]) : 0;
         Method[] methods = HeavierServes.class.getDeclaredMethods();
         List<Method> face = new ArrayList<>();
@@ -49,6 +51,10 @@ public final class ModelTest {
     private void run(List<Method> face, long seed) throws Exception {
         real = new HeavierServes();
         model = new Model();
+        if (seed % 2 == 0) {
+            runClose(face);
+            return;
+        }
         type(townText());
         call(face, "town");
         if (pick(0, 2) > 0) {
@@ -64,6 +70,57 @@ public final class ModelTest {
         for (int k = 0; k < calls; k++) {
             step(face);
             compareAll(face);
+        }
+    }
+
+    /** Few people of about the same weight that changes to and fro: weeks to come are of many kinds then. */
+    private void runClose(List<Method> face) throws Exception {
+        StringBuilder s = new StringBuilder();
+        int people = pick(2, 5);
+        for (int p = 0; p < people; p++) {
+            s.append(p == 0 ? "" : ";").append(pick(40, 50)).append('*').append(pick(0, 2));
+            for (int k = pick(0, 4); k > 0; k--) {
+                s.append(pick(0, 1) == 0 ? '+' : '-').append(pick(0, 9));
+            }
+        }
+        type(s.toString());
+        call(face, "town");
+        call(face, "scale", 0, pick(0, 1) == 0 ? 1 : pick(1, 9));
+        for (int round = 0; round < 3; round++) {
+            type(WILLS[pick(0, WILLS.length - 1)]);
+            call(face, "will");
+            call(face, "set", 2, pick(0, people - 1), pick(0, 9));
+            call(face, "stand", pick(0, 1) == 0 ? 0 : pick(0, (1 << people) - 1));
+            call(face, "law");
+            call(face, "most", pick(0, people - 1), pick(0, 7));
+            call(face, "most", pick(0, people - 1), pick(0, 7));
+            compareAll(face);
+            call(face, "odds", pick(0, people - 1), 2);
+            compareAll(face);
+            call(face, "byTurns", pick(0, 2), pick(0, 30));
+            compareAll(face);
+            call(face, "rests", pick(1, 4), pick(0, 4));
+            compareAll(face);
+            call(face, "hold", pick(0, 9));
+            call(face, "bribe", pick(0, people - 1), pick(1, 9));
+            compareAll(face);
+            call(face, "starve", pick(0, people - 1), pick(0, 9));
+            call(face, "cheapest");
+            compareAll(face);
+            call(face, "wipe");
+            call(face, "then", pick(1, 5));
+            call(face, "told", pick(0, people - 1), pick(1, 5));
+            call(face, "told", pick(0, people - 1), pick(1, 5));
+            call(face, "explains", pick(0, people - 1));
+            compareAll(face);
+            call(face, "absent");
+            call(face, "fool", pick(0, people - 1), pick(0, 30));
+            compareAll(face);
+            call(face, "party", pick(0, 30));
+            compareAll(face);
+            call(face, "ever", pick(0, 4));
+            compareAll(face);
+            call(face, "weeks", pick(0, 5));
         }
     }
 

@@ -124,6 +124,12 @@ public final class OddsTest {
         x.odds(0, 2);
         // In the first week, then nobody heavier is well: 9^7/10^8 * (9/10)^7; or nobody at first, 9^8/10^8, then it alone.
         long nines = 4782969L;
+        HeavierServes ones = Check.with("1;2;3;4;5;6;7;8");
+        for (int p = 0; p < 8; p++) {
+            ones.set(2, p, 1);
+        }
+        ones.odds(7, 2);
+        Check.row("ill twice", ones, 99, 100);
         Check.row("in two", x, nines * nines * 10 + 9 * nines * nines, 10000000000000000L);
     }
 

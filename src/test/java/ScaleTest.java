@@ -170,6 +170,17 @@ public final class ScaleTest {
         x.weighed(1, 49);
         Check.due("of as few the least off", x.cheats(), 1);
         Check.row("of as few the least off", x, 1, -1);
+        HeavierServes nine = Check.with("40;50");
+        nine.weighed(0, 49);
+        nine.weighed(1, 59);
+        Check.due("the greatest off", nine.cheats(), 0);
+        Check.row("the greatest off", nine, 0, 9);
+        HeavierServes eight = Check.with("1;1;1;1;1;1;1;1");
+        for (int p = 0; p < 8; p++) {
+            eight.weighed(p, 900);
+        }
+        Check.due("all eight", eight.cheats(), 8);
+        Check.row("all eight", eight, 255, -9);
         x.scale(0, 7);
         x.forget();
         x.forget();
