@@ -143,6 +143,15 @@ public final class FutureTest {
         // Standing in weeks 0, 2, 4 gives three; but so does standing in week 1, when nobody serves, and in week 4.
         Check.due("by turns", x.most(0, 5), 3);
         Check.row("by turns", x, 2 + 16);
+        // 0 has 47 44 41 41 49 46 43 43, 1 has 45 41 44 46 42 45 47 43 and wills till it has served for 3.
+        x = Check.with("47-3-3-0+8;45-4+3+2", "o<3");
+        // Weeks 1, 4 to 7; weeks 0, 1, 5 to 7 by standing in 0 and 5 would be as many.
+        Check.due("of as few the least number", x.most(0, 8), 5);
+        Check.row("of as few the least number", x, 2 + 16);
+        // 0 has 48 48 45 45 42 42, 2 has 42 51 44 43 46 55: standing in 0 and 2 gives weeks 0, 2, 3.
+        x = Check.with("48-0-3;40-3;42+9-7-1+3", "o<3");
+        Check.due("the fewest first", x.most(0, 6), 3);
+        Check.row("the fewest first", x, 8);
     }
 
     private static void rests() {
