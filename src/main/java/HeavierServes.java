@@ -1452,7 +1452,7 @@ public final class HeavierServes {
             if ((reach & NOBODY) != 0) {
                 return -1;
             }
-            int least = Integer.MAX_VALUE;
+            int least = SHOWN_MOST;
             for (int person = 0; person < town.people; person++) {
                 if ((reach >> person & 1) != 0) {
                     least = Math.min(least, office.scale.shows(course.weight[person]));

@@ -33,6 +33,9 @@ public final class CakesEdgesTest {
         Check.due("59 weeks", x.hold(59), 0);
         Check.due("60 weeks", x.hold(60), 10);
         Check.due("1 week", x.hold(1), 0);
+        x = Check.with("60;40", "0");
+        x.stand(2);
+        Check.due("the heavier one never wills", x.hold(60), 0);
         Alike.refused("hold changes nothing", Alike::some, 0, y -> y.hold(60));
         Alike.refused("hold changes nothing", Alike::full, 0, y -> y.hold(60));
     }
@@ -198,6 +201,7 @@ public final class CakesEdgesTest {
             return x;
         }, -2, x -> x.starve(0, 1));
         Alike.refused("nobody else wills", () -> Check.with("40;50", "i=0"), -2, x -> x.starve(0, 60));
+        Alike.refused("nobody else wills", () -> Check.with("50;40", "i=1"), -2, x -> x.starve(1, 60));
     }
 
     /** "one ALIVE .. NONE: others." */

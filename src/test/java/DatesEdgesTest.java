@@ -145,6 +145,9 @@ public final class DatesEdgesTest {
         x.told(1, 1);
         Check.due("two in one week", x.explains(0), 0);
         Check.row("two in one week", x);
+        x.then(2);
+        Check.due("two in one week, of the other", x.explains(1), 0);
+        Check.row("two in one week, of the other", x);
     }
 
     private static void explainsGaps() {

@@ -56,6 +56,10 @@ public final class FutureEdgesTest {
         x.weeks(1);
         Check.due("1 on, of the second change", x.later(1, 1), 197);
         Check.due("99 on", x.later(1, 99), 199 - 49 - 2 * 50);
+        HeavierServes three = Check.with("100+1+2+4");
+        three.weeks(1);
+        Check.due("2 on, of the second and the third change", three.later(0, 2), 107);
+        Check.due("3 on, and of the first again", three.later(0, 3), 108);
         Alike.refused("later changes nothing", Alike::some, 61 + 5 * 3 - 4 * 2, y -> y.later(0, 9));
     }
 
@@ -142,6 +146,8 @@ public final class FutureEdgesTest {
         HeavierServes x = Check.with("40;50;60", "i<2");
         Check.due("too light", x.soonest(0), -2);
         Check.due("never wills", x.soonest(2), -2);
+        HeavierServes first = Check.with("50;40", "i=1");
+        Check.due("the first never wills", first.soonest(0), -2);
         x.dies(1);
         Check.due("not alive", x.soonest(1), -2);
         Check.due("the heaviest now", x.soonest(0), 1);
@@ -253,6 +259,14 @@ public final class FutureEdgesTest {
         x = Check.with("50-9+9;45", "s>0");
         Check.due("three of five", x.most(0, 5), 3);
         Check.row("two weeks are fewer than three", x, 2 + 16);
+        // 0 has 47 44 41 41 49 46 43 43, 1 has 45 41 44 46 42 45 47 43 and wills till it has served for 3.
+        x = Check.with("47-3-3-0+8;45-4+3+2", "o<3");
+        Check.due("five of eight", x.most(0, 8), 5);
+        Check.row("1 and 4, not 0 and 5, which are as many and as few", x, 2 + 16);
+        // 0 has 48 48 45 45 42 42, 2 has 42 51 44 43 46 55: standing in 0 and 2 gives as many as in 3 alone.
+        x = Check.with("48-0-3;40-3;42+9-7-1+3", "o<3");
+        Check.due("three of six", x.most(0, 6), 3);
+        Check.row("one week is fewer, of a greater number", x, 8);
     }
 
     /** "NONE: none such, not ALIVE, another n." */
@@ -431,6 +445,10 @@ public final class FutureEdgesTest {
         // 0 has 5, 14, 23, 32: in week 3 it is its turn again, and it is heavier than 3.
         Check.due("0 in week 3", x.byTurns(1, 4), 4);
         Check.due("0 goes on", x.byTurns(1, 99), 99);
+        // One alone comes next each week: 1, who wills in week 0, is lighter in week 1.
+        HeavierServes alone = Check.with("10*1+9;15*2", "(i=1)*(n=0)");
+        Check.due("one alone, round", alone.byTurns(1, 2), 1);
+        Check.row("one alone, round", alone, 1);
         // The eighth, then the first.
         HeavierServes far = Check.with("9*1-0-0+1;1;1;1;1;1;1;5*1", "0");
         Check.due("the first, the eighth, the first", far.byTurns(1, 3), 3);

@@ -11,6 +11,8 @@ public final class OddsEdgesTest {
         oddsNow();
         oddsBounds();
         oddsOfOneNotAlive();
+        oddsInTheSecondWeek();
+        oddsAsInAWeek();
         oddsIllBounds();
         oddsGreatestNumbers();
         oddsRefused();
@@ -115,6 +117,43 @@ public final class OddsEdgesTest {
         }
     }
 
+    private static void surely(String what, HeavierServes x, int who) {
+        for (int p = 0; p < x.count(0); p++) {
+            for (int n = 1; n <= 2; n++) {
+                Check.due(what, x.odds(p, n), 0);
+                Check.row(what + ": odds(" + p + ", " + n + ")", x, p == who ? 1 : 0, 1);
+            }
+        }
+        Check.due(what, x.likely(), who);
+    }
+
+    /** In the second week THE WILL goes by who serves then, and for how long. */
+    private static void oddsInTheSecondWeek() {
+        HeavierServes x = Check.with("30;40;50", "(i=1)*(n=1)+(i=2)*(s=2)");
+        x.set(2, 1, 5);
+        x.set(2, 2, 4);
+        x.stand(1);
+        // 1 comes with a half; else 0 serves for a second week, by which 2 wills.
+        x.odds(0, 2);
+        Check.row("0 stays, 2 being ill", x, 1, 5);
+        x.odds(1, 2);
+        Check.row("1 came, for a first week", x, 1, 2);
+        x.odds(2, 2);
+        Check.row("0 stayed, 2 came", x, 3, 10);
+    }
+
+    /** The bounds of a WEEK: of equal ones the first, more than who serves, one of whom 0 is shown. */
+    private static void oddsAsInAWeek() {
+        surely("the heavier one is the first", Check.with("50;40"), 0);
+        surely("of equal ones the first", Check.with("40;50;50"), 1);
+        HeavierServes x = Check.with("40;40;39");
+        x.stand(2);
+        surely("as much as who serves is not more", x, 1);
+        x = Check.with("500;1;2", "i>0");
+        x.scale(1, -9);
+        surely("of those of whom 0 is shown the first", x, 1);
+    }
+
     private static void oddsIllBounds() {
         HeavierServes x = Check.with("40;50");
         x.set(2, 1, 9);
@@ -144,6 +183,13 @@ public final class OddsEdgesTest {
         Check.row("the lightest of eight", x, nines, 100000000L);
         x.odds(0, 2);
         Check.row("the lightest of eight in two", x, nines * nines * 19, 10000000000000000L);
+        for (int p = 0; p < 8; p++) {
+            x.set(2, p, 1);
+        }
+        x.odds(0, 1);
+        Check.row("all others ill with a tenth", x, 9, 100000000L);
+        x.odds(0, 2);
+        Check.row("that or nobody in the first week", x, 99, 10000000000000000L);
     }
 
     /** "0; NONE: none such, another n." */

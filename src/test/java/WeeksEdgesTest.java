@@ -208,6 +208,9 @@ public final class WeeksEdgesTest {
         Check.due("all", Check.year(x, "abcdefgh"), 1);
         Check.row("all", x, 7, 0);
         Check.due("each week anew", Check.year(x, "h;a;gh;ab"), 4);
+        HeavierServes once = Check.with("45+9;50");
+        Check.due("a stands in the first week alone", Check.year(once, "ab;"), 2);
+        Check.row("a stands in the first week alone", once, 1, 0);
         yearFault("aa", 1);
         yearFault("ba", 1);
         yearFault("hh", 1);
@@ -628,6 +631,13 @@ public final class WeeksEdgesTest {
         HeavierServes x = Check.with("40+1;50-1;60", "w>v");
         x.stand(1);
         x.law();
+        Check.will(x, "t");
+        x.stand(4);
+        Check.due("none holds", x.of(0, 6), 0);
+        Check.due("left", x.undo(), 2);
+        Check.due("one holds again", x.of(0, 6), 1);
+        Check.due("fallen no more", x.laws(0, 3), -1);
+        Check.will(x, "w>v");
         x.weeks(99);
         Check.due("left", x.undo(), 2);
         Check.due("week", x.count(1), 1);
