@@ -336,6 +336,10 @@ public final class FutureEdgesTest {
         x.stand(2);
         Check.due("one round", x.rests(3, 20), 1);
         Check.row("its own", x, 1, 7, 7);
+        // 0 has 51 43 52, 1 has 50 51 52, 2 has 51: 0 serves for one week, by week 0 or by week 2, and would go on.
+        x = Check.with("51-8+9-5;50+1;51");
+        Check.due("a week behind the last does not count", x.rests(3, 20), 1);
+        Check.row("a week behind the last does not count", x, 1, 7, 7, 7);
         // Plans 4 to 7 and 12 to 15 but for those that take week 0 are as good: the least is 4.
         x = turning();
         x.rests(4, 1);
@@ -452,6 +456,8 @@ public final class FutureEdgesTest {
         // The eighth, then the first.
         HeavierServes far = Check.with("9*1-0-0+1;1;1;1;1;1;1;5*1", "0");
         Check.due("the first, the eighth, the first", far.byTurns(1, 3), 3);
+        HeavierServes last = Check.with("1;1;1;1;1;1;1;5*1", "0");
+        Check.due("the eighth is the first of them", last.byTurns(1, 1), 1);
     }
 
     /** "those ALIVE" */

@@ -8,6 +8,7 @@ public final class KeptEdgesTest {
         keepAnew();
         keepRefused();
         keepAllThatChanges();
+        keepTwoPasts();
         againNothingKept();
         againPeopleCame();
         againMoreThanOnce();
@@ -86,6 +87,47 @@ public final class KeptEdgesTest {
         }
         for (int week = -1; week < 4; week++) {
             Check.due("served(" + week + ")", x.served(week), y.served(week));
+        }
+    }
+
+    /** Two pasts that part: LAWS and WEEKS of the one do not come into the other. */
+    private static void keepTwoPasts() {
+        HeavierServes x = Check.with("40;50;60");
+        x.keep(0);
+        x.stand(1);
+        x.law();
+        x.stand(0);
+        x.law();
+        x.keep(1);
+        x.again(0);
+        Check.due("laws", x.count(4), 0);
+        x.stand(0);
+        x.stand(2);
+        x.stand(0);
+        x.law();
+        x.law();
+        x.stand(4);
+        x.keep(2);
+        x.again(1);
+        long[][] one = {{0, 1, 1, -1}, {0, 2, 1, -1}};
+        long[][] other = {{1, 3, 0, 3}, {1, 3, 0, 3}};
+        pastLaws("the one", x, one);
+        Check.due("served in 0", x.served(0), 0);
+        Check.due("served in 1", x.served(1), 0);
+        Check.due("not yet", x.served(2), -2);
+        x.again(2);
+        pastLaws("the other", x, other);
+        Check.due("served in 0", x.served(0), -1);
+        Check.due("served in 1", x.served(1), 1);
+        Check.due("served in 3", x.served(3), 2);
+    }
+
+    private static void pastLaws(String what, HeavierServes x, long[][] due) {
+        Check.due(what + ": laws", x.count(4), due.length);
+        for (int law = 0; law < due.length; law++) {
+            for (int k = 0; k < 4; k++) {
+                Check.due(what + ": laws(" + law + ", " + k + ")", x.laws(law, k), due[law][k]);
+            }
         }
     }
 
