@@ -813,10 +813,6 @@ public final class HeavierServes {
         private static final int WILL_SIGNS = 40;
         private static final int DIGITS_MOST = 3;
         private static final int DEPTH_MOST = 4;
-        private static final int COMPARISONS = 0;
-        private static final int SUMS = 1;
-        private static final int PRODUCTS = 2;
-        private static final int THINGS = 3;
         private static final int FACT = 1000;
         private static final int OPERATOR = 2000;
         private static final int NEGATION = 3000;
@@ -836,7 +832,7 @@ public final class HeavierServes {
             text.open(WILL_SIGNS);
             place = 0;
             drafted = 0;
-            if (text.length > 0 && (!readLevel(text, COMPARISONS, 0) || place < text.length)) {
+            if (text.length > 0 && (!readComparison(text, 0) || place < text.length)) {
                 return place;
             }
             System.arraycopy(draft, 0, codes, 0, WILL_SIGNS);
@@ -844,32 +840,43 @@ public final class HeavierServes {
             return NONE;
         }
 
-        /** What binds as a level does: comparisons least, then sums, products, things. */
-        private boolean readLevel(Text text, int level, int depth) {
-            if (level >= THINGS) {
-                return readThing(text, depth);
-            }
-            boolean good = readLevel(text, level + 1, depth);
-            int signsMost = level == COMPARISONS ? 1 : WILL_SIGNS;
-            for (int k = 0; k < signsMost && good; k++) {
-                int sign = text.signAt(place);
-                if (levelOf(sign) != level) {
-                    break;
-                }
+        private boolean readComparison(Text text, int depth) {
+            boolean good = readSum(text, depth);
+            int sign = text.signAt(place);
+            if (good && (sign == '<' || sign == '>' || sign == '=')) {
                 place++;
-                good = readLevel(text, level + 1, depth);
+                good = readSum(text, depth);
                 emit(OPERATOR + sign);
             }
             return good;
         }
 
-        private static int levelOf(int sign) {
-            switch (sign) {
-                case '<': case '>': case '=': return COMPARISONS;
-                case '+': case '-': return SUMS;
-                case '*': case '/': return PRODUCTS;
-                default: return NONE;
+        private boolean readSum(Text text, int depth) {
+            boolean good = readProduct(text, depth);
+            for (int k = 0; k < WILL_SIGNS && good; k++) {
+                int sign = text.signAt(place);
+                if (sign != '+' && sign != '-') {
+                    break;
+                }
+                place++;
+                good = readProduct(text, depth);
+                emit(OPERATOR + sign);
             }
+            return good;
+        }
+
+        private boolean readProduct(Text text, int depth) {
+            boolean good = readThing(text, depth);
+            for (int k = 0; k < WILL_SIGNS && good; k++) {
+                int sign = text.signAt(place);
+                if (sign != '*' && sign != '/') {
+                    break;
+                }
+                place++;
+                good = readThing(text, depth);
+                emit(OPERATOR + sign);
+            }
+            return good;
         }
 
         private boolean readThing(Text text, int depth) {
@@ -898,7 +905,7 @@ public final class HeavierServes {
 
         private boolean readBracket(Text text, int depth) {
             place++;
-            if (!readLevel(text, COMPARISONS, depth + 1) || text.signAt(place) != ')') {
+            if (!readComparison(text, depth + 1) || text.signAt(place) != ')') {
                 return false;
             }
             place++;
@@ -1497,15 +1504,27 @@ public final class HeavierServes {
                 return;
             }
             State next = ladder[k + 1];
-            int others = EVERYONE & ~(1 << chooser);
-            if (here.server != chooser && office.winner(here, 1 << chooser, others) == chooser) {
+            searchStanding(here, next, k, plan);
+            searchWaiting(here, next, k, plan);
+        }
+
+        /** To stand without winning changes nothing, so that only WEEKS that are won are worth it. */
+        private void searchStanding(State here, State next, int k, int plan) {
+            if (here.server != chooser && office.winner(here, 1 << chooser, allButChooser()) == chooser) {
                 next.follow(here);
                 office.finish(next, chooser);
                 search(k + 1, plan | 1 << k);
             }
+        }
+
+        private void searchWaiting(State here, State next, int k, int plan) {
             next.follow(here);
-            office.pass(next, 0, others);
+            office.pass(next, 0, allButChooser());
             search(k + 1, plan);
+        }
+
+        private int allButChooser() {
+            return EVERYONE & ~(1 << chooser);
         }
 
         private void judge(int weeks, int plan) {
