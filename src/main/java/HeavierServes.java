@@ -68,7 +68,7 @@ public final class HeavierServes {
         int lines = town.lines;
         for (int k = 0; k < lines; k++) {
             now.welcome(town.people, town.arriving(town.people));
-            town.people++;
+            town.countOneMore();
         }
         past.forgetSteps();
         return lines;
@@ -408,7 +408,7 @@ public final class HeavierServes {
         int twin = town.people;
         town.copyPerson(person, twin);
         now.welcome(twin, now.weight[person]);
-        town.people++;
+        town.countOneMore();
         past.forgetSteps();
         return twin;
     }
@@ -659,6 +659,13 @@ public final class HeavierServes {
 
         boolean has(int person) {
             return person >= 0 && person < people && person < PEOPLE_MOST;
+        }
+
+        /** People is an end of loops over rows, so that it must not leave them. */
+        void countOneMore() {
+            if (people >= 0 && people < PEOPLE_MOST) {
+                people++;
+            }
         }
 
         int everyone() {
